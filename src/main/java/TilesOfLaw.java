@@ -923,11 +923,15 @@ public final class TilesOfLaw {
             int top = 0;
             for (int k = text.start(part); k < end; k++) {
                 int does = text.code[k];
-                if (does >= WORN && top < STACK) {
-                    stack[top] = does >= 0 ? does : floor.named(does, one);
-                    top++;
-                } else if (does >= NEGATED && top >= 1) {
-                    stack[top - 1] = does == NEGATED ? -stack[top - 1] : truth(stack[top - 1] == 0);
+                if (does >= WORN) {
+                    if (top < STACK) {
+                        stack[top] = does >= 0 ? does : floor.named(does, one);
+                        top++;
+                    }
+                } else if (does >= NEGATED) {
+                    if (top >= 1) {
+                        stack[top - 1] = does == NEGATED ? -stack[top - 1] : truth(stack[top - 1] == 0);
+                    }
                 } else if (top >= 2) {
                     top--;
                     stack[top - 1] = joined(does, stack[top - 1], stack[top]);

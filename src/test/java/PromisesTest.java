@@ -24,6 +24,7 @@ public final class PromisesTest {
         faults();
         opens();
         values();
+        deepest();
         bounds();
         force();
         minute();
@@ -389,7 +390,7 @@ public final class PromisesTest {
             {"turns 1 > 2;", -108}, {"turns {", -106}, {"turns `", -106}, {"turns \u0000", -106}, {"turns \u00ff1", -106},
             {"turns 1!", -107}, {good + "\u0080", -124}, {"turns :", -106}, {"turns /", -106}, {"turns 1,", -107},
             // A word that is neither key nor name, each as long as can be.
-            {"turn 1;", -100}, {"turnss 1;", -100}, {"turns wear;", -106}, {"turns wearyrow;", -106}, {"turns a;", -106},
+            {"turn 1;", -100}, {"turnsz 1;", -100}, {"turns az", -106}, {"turnss 1;", -100}, {"turns wear;", -106}, {"turns wearyrow;", -106}, {"turns a;", -106},
             {"turns 1orr;", -107}, {"turns 1 o", -108}, {"turns 1 z", -108}, {"turns rows", -106}, {"turns nots 1", -106},
             // A number that is too long.
             {"turns 12345;", -106}, {"turns 00000;", -106}, {"turns 1 + 99999;", -110}, {"turns 1 12345", -108},
@@ -455,6 +456,18 @@ public final class PromisesTest {
             x.force(1);
             due("tires " + part[0], x.told(0, 8), (Integer) part[1]);
             due("rests " + part[0], x.told(0, 9), (Integer) part[1]);
+        }
+    }
+
+    /** As much as can wait at once waits: each of five brackets stands behind or, and, <, + and *. */
+    private static void deepest() {
+        promise = "8 (deepest)";
+        for (int v = 0; v < 2; v++) {
+            String level = "0 or 1 and 0<0+1*";
+            String e = (level + "(").repeat(5) + level + v + ")".repeat(5);
+            TilesOfLaw x = ruled("turns " + e + ";tires 0;rests 0;");
+            x.party(0, 0, 0);
+            due("deepest " + v, x.told(0, 7), v);
         }
     }
 
@@ -769,7 +782,15 @@ public final class PromisesTest {
         w.set(2, 2, 1);
         due("worn already", w.best(2, 1, 4), -1);
         due("worn already: how many", w.best(2, 1, 5), 1);
-        // A hollow tile is not mended; nobody comes there.
+        // A hollow tile stays so as another becomes hollow: by one the party would come to 10, by two it comes to 17.
+        TilesOfLaw v = ruled("turns worn = 1; tires 0; rests 0;");
+        v.party(0, 0, 0);
+        v.set(2, 10, 1);
+        v.set(1, 10, 1);
+        due("one hollow: none leaps", v.best(1, 1, 1), 0);
+        due("two hollow: by the other way", v.best(1, 1, 4), 1);
+        due("two hollow: how many", v.best(1, 1, 5), 1);
+        due("white: none better", v.best(0, 1, 4), -1);
         due("twenty minutes", w.best(0, 20, 1) >= 0 ? 1 : 0, 1);
     }
 
@@ -880,6 +901,12 @@ public final class PromisesTest {
         x.cell(0, 0, 62);
         x.cell(0, 1, 62);
         due("beside a hollow one", x.stood(0, 0), 1L << 61 | 1L << 62);
+        // Nobody comes up to the last row, for there is none below it.
+        TilesOfLaw y = ruled("turns 4; tires 0; rests 0;");
+        y.party(2, 0, 0);
+        y.sheet(0, 0, 1);
+        y.cell(0, 0, 56);
+        due("from beyond", y.stood(0, 0), 0);
         x.sheet(1, 2, 21);
         due("21", x.stood(1, 0), TilesOfLaw.NO);
         x.sheet(1, 2, 20);
