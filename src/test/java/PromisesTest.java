@@ -1,18 +1,9 @@
 /** Promise by promise: ordinary calls, the edges that the document names, and wrong numbers. Worked out by hand. */
-public final class PromisesTest {
-    private static int wrong = 0;
-    private static String promise = "";
-
-    private static void due(String call, long got, long want) {
-        if (got != want) {
-            wrong++;
-            System.out.println(promise + ": " + call + " answered " + got + ", due is " + want);
-        }
-    }
-
+public final class PromisesTest extends Checks {
     public static void main(String[] args) {
         newObject();
         set();
+        setThatAlone();
         party();
         told();
         toldByKinds();
@@ -47,31 +38,14 @@ public final class PromisesTest {
         cell();
         copy();
         suits();
+        suitsToTheEnd();
         taken();
-        System.out.println("promises: " + (wrong == 0 ? "all hold" : wrong + " answers are wrong"));
-        if (wrong != 0) System.exit(1);
-    }
-
-    private static int read(TilesOfLaw x, String text) {
-        for (int k = 0; k < text.length(); k++) x.feed(text.charAt(k));
-        return x.text();
-    }
-
-    /** A floor ruled by a text. */
-    private static TilesOfLaw ruled(String text) {
-        TilesOfLaw x = new TilesOfLaw();
-        due("text: " + text, read(x, text), 1);
-        x.force(1);
-        return x;
-    }
-
-    /** All of these numbers beyond least .. most are refused, by the call that the caller makes. */
-    private static int[] beyond(int least, int most) {
-        return new int[] {least - 1, most + 1, Integer.MIN_VALUE, Integer.MAX_VALUE};
+        whenFull();
+        end("promises");
     }
 
     private static void newObject() {
-        promise = "1";
+        sentence("1");
         TilesOfLaw x = new TilesOfLaw();
         due("parties", x.count(0), 0);
         due("hollow", x.count(1), 0);
@@ -82,7 +56,7 @@ public final class PromisesTest {
         due("red", x.floor(0), 0);
         due("hollow", x.floor(1), 0);
         due("stood on", x.floor(2), 0);
-        due("no image", x.back(), TilesOfLaw.STATE);
+        due("no image", x.back(), STATE);
         for (int k = 0; k < 4; k++) due("sheet " + k + " is missing", x.cell(k, 0, 0), -11);
         due("NONE", TilesOfLaw.NONE, -1);
         due("BAD", TilesOfLaw.BAD, -2);
@@ -95,7 +69,7 @@ public final class PromisesTest {
     }
 
     private static void set() {
-        promise = "2";
+        sentence("2");
         TilesOfLaw x = new TilesOfLaw();
         due("minute", x.set(0, 0, 999), 0);
         due("minute, of does not matter", x.set(0, -77, 5), 999);
@@ -150,8 +124,41 @@ public final class PromisesTest {
         due("hollow as it was", x.floor(1), 1L << 10);
     }
 
+    private static final String[] SHOWN = {"minute", "red", "hollow", "number 0", "number 1", "on 0", "on 1", "weary 0", "weary 1",
+        "kind 0", "kind 1", "rule"};
+
+    private static long[] shown(TilesOfLaw x) {
+        return new long[] {x.count(2), x.floor(0), x.floor(1), x.told(0, 3), x.told(1, 3), x.told(0, 4), x.told(1, 4), x.told(0, 5),
+            x.told(1, 5), x.told(0, 6), x.told(1, 6), x.count(5)};
+    }
+
+    /** What is set becomes v, and nothing else does: of any tile, red and hollow or not, and of either party. */
+    private static void setThatAlone() {
+        sentence("2 (that alone)");
+        int[][] sets = {{0, 5, 0, 0}, {0, 5, 1, 0}, {0, 6, 0, 0}, {0, 6, 1, 0}, {0, 1, 7, 0}, {0, -1, 1, 0}, {1, 5, 0, 1}, {1, 6, 1, 1},
+            {1, 7, 1, 1}, {1, 8, 1, 1}, {2, 6, 1, 2}, {2, 5, 1, 2}, {2, 7, 0, 2}, {3, 0, 1, 3}, {3, 1, 0, 4}, {4, 0, 1, 5}, {4, 1, 0, 6},
+            {5, 0, 1, 7}, {5, 1, 0, 8}};
+        for (int[] set : sets) {
+            TilesOfLaw x = new TilesOfLaw();
+            x.party(4, 3, 10);
+            x.party(5, 4, 8);
+            x.set(0, 0, 12);
+            x.set(1, 5, 1);
+            x.set(2, 7, 1);
+            x.set(5, 0, 20);
+            x.set(5, 1, 30);
+            long[] before = shown(x);
+            long bit = set[0] == 1 || set[0] == 2 ? 1L << set[1] : 0, was = before[set[3]];
+            String call = "set " + set[0] + " " + set[1] + " " + set[2];
+            due(call, x.set(set[0], set[1], set[2]), bit == 0 ? was : (was & bit) != 0 ? 1 : 0);
+            before[set[3]] = bit == 0 ? set[2] : set[2] == 1 ? was | bit : was & ~bit;
+            long[] after = shown(x);
+            for (int k = 0; k < after.length; k++) due(call + ", then " + SHOWN[k], after[k], before[k]);
+        }
+    }
+
     private static void party() {
-        promise = "3";
+        sentence("3");
         TilesOfLaw x = new TilesOfLaw();
         x.set(2, 9, 1);
         for (int v : beyond(0, 5)) due("kind " + v, x.party(v, 0, 0), -2);
@@ -184,7 +191,7 @@ public final class PromisesTest {
     }
 
     private static void told() {
-        promise = "4";
+        sentence("4");
         TilesOfLaw x = new TilesOfLaw();
         x.set(0, 0, 12);
         x.set(1, 5, 1);
@@ -219,18 +226,17 @@ public final class PromisesTest {
     }
 
     private static void toldByKinds() {
-        promise = "4 (kinds)";
-        TilesOfLaw x = ruled("turns 0; tires 7; rests 9;");
+        sentence("4 (kinds)");
         int[] tires = {7, 3, 8, 3 + 6, 16, 17};
         int[] rests = {9, 9, 0, 4, 6, 18};
         // Tile 1 is black, 0 white, 2 red; weary 0, 4, 5, 49, 50.
         int[][] black = {{1, 1, 1, 1, 1}, {1, 1, 1, 1, 1}, {1, 1, 1, 1, 1}, {1, 1, 1, 1, 1}, {0, 0, 0, 0, 0}, {1, 1, 1, 1, 2}};
         int[][] white = {{0, 0, 0, 0, 0}, {1, 1, 0, 0, 0}, {0, 0, 0, 0, 0}, {1, 1, 0, 0, 0}, {0, 0, 0, 0, 0}, {0, 0, 0, 0, 2}};
         int[] weary = {0, 4, 5, 49, 50};
-        x.set(1, 2, 1);
-        x.set(1, 11, 1);
-        x.image();
         for (int kind = 0; kind < 6; kind++) {
+            TilesOfLaw x = ruled("turns 0; tires 7; rests 9;");
+            x.set(1, 2, 1);
+            x.set(1, 11, 1);
             x.party(kind, 6, 1);
             due("tires of kind " + kind, x.told(0, 8), tires[kind]);
             due("rests of kind " + kind, x.told(0, 9), rests[kind]);
@@ -249,13 +255,11 @@ public final class PromisesTest {
                     due("kind " + kind + " on red, weary " + weary[w], x.told(0, 10), 2);
                 }
             }
-            x.back();
-            x.force(1);
         }
     }
 
     private static void leap() {
-        promise = "5";
+        sentence("5");
         TilesOfLaw x = new TilesOfLaw();
         x.party(0, 0, 27);
         int[] to = {27 + 17, 27 + 10, 27 - 6, 27 - 15, 27 - 17, 27 - 10, 27 + 6, 27 + 15};
@@ -278,7 +282,7 @@ public final class PromisesTest {
     }
 
     private static void leapByKinds() {
-        promise = "5 (kinds)";
+        sentence("5 (kinds)");
         int[] party = {44, 37, 21, 12, 10, 17, 33, 42};
         int[] advocate = {27 + 18, 27 - 14, 27 - 18, 27 + 14, 10, 17, 33, 42};
         int[] clerk = {35, -1, 28, -1, 19, -1, 26, -1};
@@ -306,7 +310,7 @@ public final class PromisesTest {
     }
 
     private static void floor() {
-        promise = "6";
+        sentence("6");
         TilesOfLaw x = new TilesOfLaw();
         x.set(1, 0, 1);
         x.set(1, 63, 1);
@@ -318,11 +322,11 @@ public final class PromisesTest {
         due("red", x.floor(0), 1 | 1L << 63);
         due("hollow", x.floor(1), 1L << 31 | 1L << 32);
         due("stood on", x.floor(2), 1L << 33 | 1L << 62);
-        for (int what : beyond(0, 2)) due("what " + what, x.floor(what), TilesOfLaw.NO);
+        for (int what : beyond(0, 2)) due("what " + what, x.floor(what), NO);
     }
 
     private static void feed() {
-        promise = "7";
+        sentence("7");
         TilesOfLaw x = new TilesOfLaw();
         due("0", x.feed(0), 1);
         due("255", x.feed(255), 2);
@@ -336,7 +340,7 @@ public final class PromisesTest {
     }
 
     private static void text() {
-        promise = "8";
+        sentence("8");
         TilesOfLaw x = new TilesOfLaw();
         due("empty tape", x.text(), -100);
         due("still one text", x.count(3), 1);
@@ -365,7 +369,7 @@ public final class PromisesTest {
     }
 
     private static void faults() {
-        promise = "8 (faults)";
+        sentence("8 (faults)");
         String good = "turns 1;tires 2;rests 3;";
         Object[][] texts = {
             {good, 1}, {"  \n" + good + "\n ", 1}, {"turns 1 ; tires 2 ; rests 3 ;", 1},
@@ -405,7 +409,7 @@ public final class PromisesTest {
     }
 
     private static void opens() {
-        promise = "8 (open)";
+        sentence("8 (open)");
         String tail = ";tires 1;rests 1;";
         Object[][] parts = {
             {"(((((1)))))", NONE}, {"((((((1))))))", 5}, {"-----1", NONE}, {"------1", 5},
@@ -426,11 +430,9 @@ public final class PromisesTest {
         }
     }
 
-    private static final int NONE = -1;
-
     /** What a tires text tells, in so far as it is 0 .. 99, of a party weary 7 on column 5, row 2 with number 6. */
     private static void values() {
-        promise = "8 (values)";
+        sentence("8 (values)");
         Object[][] parts = {
             {"weary", 7}, {"column", 5}, {"row", 2}, {"number", 6}, {"minute", 40}, {"worn", 3}, {"12", 12}, {"0099", 99},
             {"2+3*4", 14}, {"(2+3)*4", 20}, {"20-5-4", 11}, {"20-(5-4)", 19}, {"2*3*4", 24}, {"-3+10", 7}, {"10*-3+40", 10},
@@ -461,7 +463,7 @@ public final class PromisesTest {
 
     /** As much as can wait at once waits: each of five brackets stands behind or, and, <, + and *. */
     private static void deepest() {
-        promise = "8 (deepest)";
+        sentence("8 (deepest)");
         for (int v = 0; v < 2; v++) {
             String level = "0 or 1 and 0<0+1*";
             String e = (level + "(").repeat(5) + level + v + ")".repeat(5);
@@ -472,7 +474,7 @@ public final class PromisesTest {
     }
 
     private static void bounds() {
-        promise = "8 (bounds)";
+        sentence("8 (bounds)");
         int[][] turns = {{7, 7}, {8, 0}, {98, 2}, {99, 3}, {100, 3}, {9999, 3}, {-1, 7}, {-8, 0}, {-9, 7}, {-99, 5}, {-100, 5},
             {-9999, 5}};
         for (int[] turn : turns) {
@@ -501,7 +503,7 @@ public final class PromisesTest {
     }
 
     private static void force() {
-        promise = "9";
+        sentence("9");
         TilesOfLaw x = new TilesOfLaw();
         x.party(0, 4, 0);
         due("the only one", x.force(0), 0);
@@ -522,7 +524,7 @@ public final class PromisesTest {
     }
 
     private static void minute() {
-        promise = "10";
+        sentence("10");
         TilesOfLaw x = new TilesOfLaw();
         due("nobody", x.minute(), 0);
         due("minute", x.count(2), 1);
@@ -566,7 +568,7 @@ public final class PromisesTest {
     }
 
     private static void minuteByKinds() {
-        promise = "10 (kinds)";
+        sentence("10 (kinds)");
         TilesOfLaw x = ruled("turns 2 - minute*2; tires 9; rests 5;");
         x.party(1, 5, 28);
         x.party(2, 5, 28);
@@ -593,7 +595,7 @@ public final class PromisesTest {
     }
 
     private static void run() {
-        promise = "11";
+        sentence("11");
         TilesOfLaw x = new TilesOfLaw();
         x.party(0, 0, 0);
         x.party(2, 0, 1);
@@ -628,7 +630,7 @@ public final class PromisesTest {
     }
 
     private static void call() {
-        promise = "12";
+        sentence("12");
         TilesOfLaw x = new TilesOfLaw();
         due("nobody, when", x.call(1, 40, 0), 0);
         due("nobody, how many", x.call(1, 40, 1), 0);
@@ -654,7 +656,7 @@ public final class PromisesTest {
     }
 
     private static void meet() {
-        promise = "13";
+        sentence("13");
         TilesOfLaw x = ruled("turns number; tires 0; rests 0;");
         x.party(2, 2, 0);
         x.party(2, 6, 4);
@@ -684,7 +686,7 @@ public final class PromisesTest {
     }
 
     private static void reached() {
-        promise = "14";
+        sentence("14");
         TilesOfLaw x = new TilesOfLaw();
         x.party(0, 0, 0);
         due("0", x.reached(0, 0), 1);
@@ -703,12 +705,12 @@ public final class PromisesTest {
         x.party(5, 0, 9);
         x.set(5, 2, 50);
         due("washer, weary", x.reached(2, 63), 1L << 9);
-        for (int n : beyond(0, 63)) due("n " + n, x.reached(0, n), TilesOfLaw.NO);
-        for (int one : beyond(0, 2)) due("one " + one, x.reached(one, 0), TilesOfLaw.NO);
+        for (int n : beyond(0, 63)) due("n " + n, x.reached(0, n), NO);
+        for (int one : beyond(0, 2)) due("one " + one, x.reached(one, 0), NO);
     }
 
     private static void fewest() {
-        promise = "15";
+        sentence("15");
         TilesOfLaw x = new TilesOfLaw();
         x.party(0, 0, 0);
         x.party(2, 0, 0);
@@ -732,7 +734,7 @@ public final class PromisesTest {
     }
 
     private static void best() {
-        promise = "16";
+        sentence("16");
         TilesOfLaw x = new TilesOfLaw();
         for (int what = 0; what < 6; what++) due("nobody, " + what, x.best(0, 1, what), what % 2 == 0 ? -1 : 0);
         // Clerks that step to the right: 0 to 1 (black), 9 to 10 (black), 2 to 3 (black).
@@ -795,10 +797,10 @@ public final class PromisesTest {
     }
 
     private static void mean() {
-        promise = "17";
+        sentence("17");
         TilesOfLaw x = new TilesOfLaw();
-        due("nobody", x.mean(0), TilesOfLaw.NO);
-        due("nobody", x.mean(1), TilesOfLaw.NO);
+        due("nobody", x.mean(0), NO);
+        due("nobody", x.mean(1), NO);
         x.party(0, 0, 0);
         due("0 above", x.mean(0), 0);
         due("1 below", x.mean(1), 1);
@@ -817,11 +819,11 @@ public final class PromisesTest {
         x.set(5, 4, 4);
         due("110 by 5: above", x.mean(0), 22);
         due("110 by 5: below", x.mean(1), 1);
-        for (int part : beyond(0, 1)) due("part " + part, x.mean(part), TilesOfLaw.NO);
+        for (int part : beyond(0, 1)) due("part " + part, x.mean(part), NO);
     }
 
     private static void tells() {
-        promise = "18";
+        sentence("18");
         TilesOfLaw x = new TilesOfLaw();
         due("nobody", x.tells(0, 0, 0), -2);
         x.party(0, 0, 0);
@@ -883,7 +885,7 @@ public final class PromisesTest {
     }
 
     private static void stood() {
-        promise = "19";
+        sentence("19");
         TilesOfLaw x = ruled("turns 2; tires 0; rests 0;");
         x.party(2, 0, 0);
         x.sheet(0, 2, 0);
@@ -908,17 +910,17 @@ public final class PromisesTest {
         y.cell(0, 0, 56);
         due("from beyond", y.stood(0, 0), 0);
         x.sheet(1, 2, 21);
-        due("21", x.stood(1, 0), TilesOfLaw.NO);
+        due("21", x.stood(1, 0), NO);
         x.sheet(1, 2, 20);
         due("20", x.stood(1, 0), 0);
-        due("missing", x.stood(2, 0), TilesOfLaw.NO);
-        for (int s : beyond(0, 3)) due("sheet " + s, x.stood(s, 0), TilesOfLaw.NO);
-        for (int one : beyond(0, 0)) due("one " + one, x.stood(0, one), TilesOfLaw.NO);
+        due("missing", x.stood(2, 0), NO);
+        for (int s : beyond(0, 3)) due("sheet " + s, x.stood(s, 0), NO);
+        for (int one : beyond(0, 0)) due("one " + one, x.stood(0, one), NO);
         due("on as it was", x.told(0, 4), 0);
     }
 
     private static void film() {
-        promise = "20";
+        sentence("20");
         TilesOfLaw x = new TilesOfLaw();
         x.party(0, 0, 0);
         x.party(0, 1, 27);
@@ -947,7 +949,7 @@ public final class PromisesTest {
     }
 
     private static void drawn() {
-        promise = "21";
+        sentence("21");
         TilesOfLaw x = new TilesOfLaw();
         x.party(0, 0, 27);
         due("0 minutes", x.drawn(5, 0, 0), 27);
@@ -980,7 +982,7 @@ public final class PromisesTest {
     }
 
     private static void chance() {
-        promise = "22";
+        sentence("22");
         for (int seed : new int[] {0, 77, Integer.MAX_VALUE - 3, Integer.MIN_VALUE, -9}) {
             for (int m : new int[] {1, 2, 3, 4, 6, 8, 9, 20, 39, 40}) {
                 TilesOfLaw x = new TilesOfLaw();
@@ -1010,13 +1012,13 @@ public final class PromisesTest {
         due("red, below", x.chance(3, 6, 0, 1), 1);
         x.set(4, 0, 0);
         due("white, above", x.chance(3, 6, 0, 0), 0);
-        for (int m : beyond(1, 40)) due("m " + m, x.chance(0, m, 0, 0), TilesOfLaw.NO);
-        for (int one : beyond(0, 0)) due("one " + one, x.chance(0, 1, one, 0), TilesOfLaw.NO);
-        for (int part : beyond(0, 1)) due("part " + part, x.chance(0, 1, 0, part), TilesOfLaw.NO);
+        for (int m : beyond(1, 40)) due("m " + m, x.chance(0, m, 0, 0), NO);
+        for (int one : beyond(0, 0)) due("one " + one, x.chance(0, 1, one, 0), NO);
+        for (int part : beyond(0, 1)) due("part " + part, x.chance(0, 1, 0, part), NO);
     }
 
     private static void imageAndBack() {
-        promise = "23, 24";
+        sentence("23, 24");
         TilesOfLaw x = new TilesOfLaw();
         due("none yet", x.back(), -3);
         due("nobody", x.image(), 0);
@@ -1077,7 +1079,7 @@ public final class PromisesTest {
     }
 
     private static void count() {
-        promise = "25";
+        sentence("25");
         TilesOfLaw x = new TilesOfLaw();
         x.party(0, 0, 0);
         x.party(0, 0, 0);
@@ -1098,7 +1100,7 @@ public final class PromisesTest {
     }
 
     private static void sheet() {
-        promise = "26";
+        sentence("26");
         TilesOfLaw x = new TilesOfLaw();
         for (int sort = 0; sort < 3; sort++) {
             due("40", x.sheet(sort, sort, 40), 1);
@@ -1133,7 +1135,7 @@ public final class PromisesTest {
     }
 
     private static void cell() {
-        promise = "27";
+        sentence("27");
         TilesOfLaw x = ruled("turns 0; tires 0; rests 0;");
         x.party(2, 0, 1);
         x.sheet(0, 0, 1);
@@ -1156,7 +1158,7 @@ public final class PromisesTest {
     }
 
     private static void copy() {
-        promise = "28";
+        sentence("28");
         TilesOfLaw x = ruled("turns 2; tires 0; rests 0;");
         x.party(2, 0, 0);
         x.sheet(0, 1, 7);
@@ -1199,7 +1201,7 @@ public final class PromisesTest {
     }
 
     private static void suits() {
-        promise = "29";
+        sentence("29");
         TilesOfLaw x = new TilesOfLaw();
         for (int sort = 0; sort < 3; sort++) {
             x.image();
@@ -1241,8 +1243,30 @@ public final class PromisesTest {
         due("on a hollow one: left out", x.suits(0, 2, 0, 1), 0);
     }
 
+    private static void suitsToTheEnd() {
+        sentence("29 (the last place)");
+        // Five come from 25 on, by places 25 .. 39 of 40; from 26 on the fifth stands outside.
+        for (int from : new int[] {25, 26, 27, 37, 38, 39, 40}) {
+            TilesOfLaw x = new TilesOfLaw();
+            due("a row of 40", x.sheet(0, 0, 40), 1);
+            int whole = (40 - from) / 3;
+            due("five from " + from, x.suits(0, 0, from, 5), whole == 5 ? 5 : -12);
+            due("came", x.count(0), whole);
+            due("none from " + from, x.suits(0, 0, from, 0), 0);
+        }
+        // The copy, too, goes to the last place of 40.
+        TilesOfLaw x = new TilesOfLaw();
+        x.sheet(0, 1, 40);
+        x.sheet(1, 1, 40);
+        due("copy of 40", x.copy(0, 0, 1, 0, 40), 40);
+        due("copy of the last", x.copy(0, 39, 1, 39, 1), 1);
+        due("copy of one beyond", x.copy(0, 40, 1, 39, 1), -12);
+        due("copy to one beyond", x.copy(0, 39, 1, 40, 1), -12);
+        due("copy of 41", x.copy(0, 0, 1, 0, 41), -12);
+    }
+
     private static void taken() {
-        promise = "30";
+        sentence("30");
         boolean[][] is = {
             {true, false, false, false, false, false}, {true, true, false, false, false, false},
             {true, false, true, false, false, false}, {true, true, false, true, false, false},
@@ -1259,5 +1283,34 @@ public final class PromisesTest {
             x.set(3, 0, 0);
             due("the number as it is", x.taken(0, kind), 0);
         }
+    }
+
+    /** All that can be full at once is full. */
+    private static void whenFull() {
+        sentence("11, 18, 25 (full)");
+        TilesOfLaw x = new TilesOfLaw();
+        for (int k = 1; k < 6; k++) due("text " + k, read(x, parts("1", "2", "3")), k);
+        x.force(5);
+        for (int k = 0; k < 5; k++) x.party(1, 9, 0);
+        due("all are found 1", x.run(4, 0, 3), 5);
+        due("by the call, too", x.call(1, 0, 1), 5);
+        for (int k = 0; k < 5; k++) x.set(5, k, 99);
+        due("none is found 1", x.run(4, 0, 3), 0);
+        x.sheet(0, 0, 0);
+        due("all texts", x.tells(0, 0, 5), 63);
+        due("all parties", x.tells(0, 0, 6), 31);
+        for (int t = 1; t < 64; t++) x.set(2, t, 1);
+        x.set(0, 0, 999);
+        feed(x, "x".repeat(160));
+        int[] most = {5, 63, 999, 6, 160, 5};
+        for (int what = 0; what < 6; what++) due("count " + what, x.count(what), most[what]);
+        due("text", x.text(), FULL);
+        due("feed", x.feed(0), FULL);
+        due("party", x.party(0, 0, 0), FULL);
+        due("minute", x.minute(), STATE);
+        for (int what = 0; what < 6; what++) due("count " + what + ", as it was", x.count(what), most[what]);
+        due("still in thought", x.run(0, 40, 0), 0);
+        due("still in thought, it rests", x.run(0, 40, 1), 0);
+        due("reached", x.reached(0, 63), 1);
     }
 }

@@ -4,7 +4,7 @@ import java.util.Random;
 
 /** The same random calls on the program and on PlainTiles: each answer must be the same. Seeds are fixed. */
 public final class RandomRunsTest {
-    private static final int RUNS = 80, CALLS = 500, TEXTS = 4000;
+    private static final int RUNS = 320, CALLS = 500, TEXTS = 6000;
 
     private final Random random;
     private final TilesOfLaw x = new TilesOfLaw();
@@ -40,7 +40,7 @@ public final class RandomRunsTest {
         if (wrong != 0) System.exit(1);
     }
 
-    /** Five texts on a new object, and what those that have no fault tell of one party. */
+    /** Five texts (or as many as 512 calls take) on a new object, and what those that have no fault tell of one party. */
     private boolean readsAlike() {
         int number = random.nextInt(10), on = random.nextInt(64);
         x.party(0, number, on);
@@ -49,6 +49,8 @@ public final class RandomRunsTest {
             String text = random.nextInt(4) == 0 ? tokens()
                 : "turns " + e(4) + ";tires " + e(4) + ";\nrests " + e(4) + " ; ";
             if (random.nextBoolean()) text = spoiled(text);
+            calls += text.length();
+            if (calls > CALLS) return true;
             for (int i = 0; i < text.length(); i++) {
                 x.feed(text.charAt(i));
                 y.feed(text.charAt(i));
@@ -84,7 +86,7 @@ public final class RandomRunsTest {
                 return false;
             }
         }
-        while (calls < CALLS) {
+        for (int k = 0; calls < CALLS - 20 && k < CALLS; k++) {
             if (!step()) return false;
         }
         return true;
@@ -273,10 +275,10 @@ public final class RandomRunsTest {
         if (random.nextInt(3) == 0) text = spoiled(text);
         if (random.nextInt(50) == 0) text = text + " ".repeat(170 - Math.min(170, text.length()));
         if (text.length() > 160 && random.nextInt(5) != 0) return true;
+        // A byte is a call too, and what comes behind the 512th is free.
+        if (calls + text.length() > CALLS) return true;
         for (int k = 0; k < text.length(); k++) {
-            // Not counted as calls of a run: most of them answer alike, and a run would be little else.
             int a = x.feed(text.charAt(k)), b = y.feed(text.charAt(k));
-            calls--;
             if (!same("feed " + (int) text.charAt(k), a, b)) return false;
         }
         if (random.nextInt(8) == 0) {
