@@ -930,7 +930,7 @@ public final class TilesOfLaw {
                     }
                 } else if (does >= NEGATED) {
                     if (top >= 1) {
-                        stack[top - 1] = does == NEGATED ? -stack[top - 1] : truth(stack[top - 1] == 0);
+                        stack[top - 1] = does == NEGATED ? -stack[top - 1] : stack[top - 1] == 0 ? 1 : 0;
                     }
                 } else if (top >= 2) {
                     top--;
@@ -943,13 +943,13 @@ public final class TilesOfLaw {
         private static int joined(int does, int a, int b) {
             switch (does) {
                 case OR:
-                    return truth(a != 0 || b != 0);
+                    return a != 0 || b != 0 ? 1 : 0;
                 case AND:
-                    return truth(a != 0 && b != 0);
+                    return a != 0 && b != 0 ? 1 : 0;
                 case BELOW:
-                    return truth(a < b);
+                    return a < b ? 1 : 0;
                 case LIKE:
-                    return truth(a == b);
+                    return a == b ? 1 : 0;
                 case PLUS:
                     return a + b;
                 case MINUS:
@@ -957,10 +957,6 @@ public final class TilesOfLaw {
                 default:
                     return a * b;
             }
-        }
-
-        private static int truth(boolean so) {
-            return so ? 1 : 0;
         }
     }
 
@@ -1009,7 +1005,7 @@ public final class TilesOfLaw {
             return written;
         }
 
-        // Open tells how many of ( and not and - ahead of a ONE are open.
+        // Open tells how many of ( and not and - ahead of a ONE are open: one more than MOST_OPEN can stand nowhere.
         private void readE(int open) {
             readAnd(open);
             for (int k = 0; k < MOST_TAPE && token == KEY_OR; k++) {
@@ -1029,11 +1025,10 @@ public final class TilesOfLaw {
         }
 
         private void readNot(int open) {
-            if (token == KEY_NOT) {
-                if (opens(open)) {
-                    readNot(open + 1);
-                    write(NOT);
-                }
+            if (token == KEY_NOT && open < MOST_OPEN) {
+                advance();
+                readNot(open + 1);
+                write(NOT);
                 return;
             }
             readSum(open);
@@ -1071,29 +1066,21 @@ public final class TilesOfLaw {
             } else if (token < 0) {
                 write(token);
                 advance();
-            } else if (token == '-') {
-                if (opens(open)) {
-                    readOne(open + 1);
-                    write(NEGATED);
-                }
-            } else if (token == '(') {
-                if (opens(open)) {
-                    readE(open + 1);
-                    need(')');
+            } else if (token == '-' && open < MOST_OPEN) {
+                advance();
+                readOne(open + 1);
+                write(NEGATED);
+            } else if (token == '(' && open < MOST_OPEN) {
+                advance();
+                readE(open + 1);
+                if (token == ')') {
+                    advance();
+                } else {
+                    refuse();
                 }
             } else {
                 refuse();
             }
-        }
-
-        // Steps behind a token that opens, if there is room for one more.
-        private boolean opens(int open) {
-            if (open >= MOST_OPEN) {
-                refuse();
-                return false;
-            }
-            advance();
-            return true;
         }
 
         private void need(int wanted) {

@@ -7,7 +7,9 @@ import java.nio.file.Files;
 import java.nio.file.Path;
 import java.util.ArrayList;
 import java.util.Arrays;
+import java.util.HashMap;
 import java.util.List;
+import java.util.Map;
 import java.util.Set;
 import java.util.TreeSet;
 import java.util.regex.Matcher;
@@ -116,6 +118,7 @@ public final class FaceTest {
             if (m.find()) must(false, "ruled out: " + m.group());
         }
         must(!Pattern.compile("\"\\s*\\+|\\+\\s*\"").matcher(code).find(), "texts are not joined by +");
+        depth(code);
         int from = -1;
         String[] lines = code.split("\n", -1);
         for (int k = 0; k < lines.length; k++) {
@@ -125,5 +128,55 @@ public final class FaceTest {
                 from = -1;
             }
         }
+    }
+
+    /** Rule 11: calls that are no recursion go at most eight deep, the library's own calls counted too. */
+    private static void depth(String code) {
+        Map<String, Set<String>> calls = calls(code);
+        must(calls.size() > 80, "the methods are found in the source");
+        must(recursive(calls).equals(Set.of("readE", "readAnd", "readNot", "readSum", "readTerm", "readOne")),
+            "those that call themselves by others are " + recursive(calls));
+        for (String from : calls.keySet()) {
+            int deep = depth(from, calls, recursive(calls));
+            must(deep <= 8, "calls go " + deep + " deep from " + from);
+        }
+    }
+
+    /** Whom each method calls. Methods of one name are taken for one, which can only make it deeper. */
+    private static Map<String, Set<String>> calls(String code) {
+        Map<String, Set<String>> calls = new HashMap<>();
+        Set<String> called = null;
+        for (String line : code.split("\n")) {
+            Matcher head = Pattern.compile("(?: {4}| {8})(?:\\w[\\w\\[\\]]* )*(\\w+)\\([^()]*\\) \\{").matcher(line);
+            if (head.matches()) {
+                called = calls.computeIfAbsent(head.group(1), name -> new TreeSet<>());
+                continue;
+            }
+            Matcher call = Pattern.compile("(\\w+)\\(").matcher(called == null ? "" : line);
+            while (call.find()) if (!Set.of("if", "for", "while", "switch", "return").contains(call.group(1))) called.add(call.group(1));
+        }
+        return calls;
+    }
+
+    private static Set<String> recursive(Map<String, Set<String>> calls) {
+        Set<String> all = new TreeSet<>();
+        for (String from : calls.keySet()) {
+            List<String> line = new ArrayList<>(calls.get(from));
+            for (int k = 0; k < line.size(); k++) {
+                for (String to : calls.getOrDefault(line.get(k), Set.of())) if (!line.contains(to)) line.add(to);
+            }
+            if (line.contains(from)) all.add(from);
+        }
+        return all;
+    }
+
+    /** All that is recursion counts for one. */
+    private static int depth(String from, Map<String, Set<String>> calls, Set<String> recursive) {
+        Set<String> called = new TreeSet<>();
+        for (String name : recursive.contains(from) ? recursive : Set.of(from)) called.addAll(calls.getOrDefault(name, Set.of()));
+        if (recursive.contains(from)) called.removeAll(recursive);
+        int deepest = 0;
+        for (String to : called) deepest = Math.max(deepest, depth(to, calls, recursive));
+        return deepest + 1;
     }
 }
