@@ -119,6 +119,7 @@ public final class FaceTest {
         }
         must(!Pattern.compile("\"\\s*\\+|\\+\\s*\"").matcher(code).find(), "texts are not joined by +");
         depth(code);
+        room(code);
         int from = -1;
         String[] lines = code.split("\n", -1);
         for (int k = 0; k < lines.length; k++) {
@@ -128,6 +129,17 @@ public final class FaceTest {
                 from = -1;
             }
         }
+    }
+
+    /** Rule 12: all that is made is made by constructors, but for the one text and its code that are made as it is read. */
+    private static void room(String code) {
+        Set<String> makers = Set.of("TilesOfLaw", "Floor", "Law", "Reader", "Sheet", "Text", "readText");
+        for (Map.Entry<String, Set<String>> method : calls(code).entrySet()) {
+            for (String made : List.of("Text", "Floor", "Law", "Reader", "Sheet", "copyOf", "copyOfRange", "clone", "StringBuilder")) {
+                must(!method.getValue().contains(made) || makers.contains(method.getKey()), method.getKey() + " makes " + made);
+            }
+        }
+        must(code.split("\\bnew \\w+\\[").length - 1 == 10, "ten rows are made, all by constructors");
     }
 
     /** Rule 11: calls that are no recursion go at most eight deep, the library's own calls counted too. */
